@@ -12,14 +12,13 @@ public final class PrintSpooler {
 
     private static final int MOST_DOCUMENTS = 10, MOST_JOBS = 24, MOST_PRINTERS = 3;
     private static final int MOST_CHARACTERS = 40, MOST_LISTED = 400, MOST_IN_TRAY = 500, MOST_LOGGED = 100;
-    private static final int PAPER_SIZES = 3, ONE_SIDED_SIZE = 2, USERS = 6, SETTINGS = 6, SLOTS = 2;
+    private static final int PAPER_SIZES = 3, ONE_SIDED_SIZE = 2, USERS = 6, SLOTS = 2;
     private static final int MOST_BANDS = 16, BLANK_SIDE = -1, NO_REQUEST = -1, FINE = 0;
     private static final int LONGEST_FORECAST = 3000, LONGEST_ADVANCE = 1000;
 
     private final Spool spool = new Spool();
     private final Spool trial = new Spool();
     private final Spool[] slots = new Spool[SLOTS];
-    private final boolean[] saved = new boolean[SLOTS];
     private final PageList gathered = new PageList();
     private final ShortestText shortest = new ShortestText();
 
@@ -465,7 +464,7 @@ public final class PrintSpooler {
             return BAD_VALUE;
         }
         kept.copyFrom(spool);
-        saved[slot] = true;
+        kept.isSaved = true;
         return spool.time;
     }
 
@@ -474,7 +473,7 @@ public final class PrintSpooler {
         if (kept == null) {
             return BAD_VALUE;
         }
-        if (!saved[slot]) {
+        if (!kept.isSaved) {
             return NOT_POSSIBLE;
         }
         spool.copyFrom(kept);
@@ -1191,6 +1190,8 @@ public final class PrintSpooler {
         private int aging = 20;
         private int margin = 1000;
         private int time = 0;
+        // Of a slot alone: whether anything was saved in it. It is never copied.
+        private boolean isSaved = false;
 
         Spool() {
             for (int i = 0; i < printers.length; i++) {
