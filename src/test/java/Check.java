@@ -1,24 +1,38 @@
 /** Counts and prints the answers that are not due; every test makes one and ends with end(). */
 final class Check {
-    private int wrong = 0;
-    private int promise = 0;
+    private static final int MOST_PRINTED = 40;
 
-    /** From here on the checks are about this promise. */
-    void promise(int number) {
-        promise = number;
+    private int wrong = 0;
+    private int section = 0;
+    private String sentence = "";
+
+    /**
+     * From here on the checks are about this sentence of the document, in the section of this promise (0: the
+     * Description). SentenceTest looks whether it stands there, and whether every sentence there has such checks.
+     */
+    void says(int inSection, String words) {
+        section = inSection;
+        sentence = words;
     }
 
     void due(String call, long got, long want) {
         if (got != want) {
-            wrong++;
-            System.out.println("promise " + promise + ": " + call + " answered " + got + ", due is " + want);
+            report(call, "" + got, "" + want);
         }
     }
 
     void due(String call, String got, String want) {
         if (!got.equals(want)) {
-            wrong++;
-            System.out.println("promise " + promise + ": " + call + " answered " + got + ", due is " + want);
+            report(call, got, want);
+        }
+    }
+
+    private void report(String call, String got, String want) {
+        wrong++;
+        if (wrong <= MOST_PRINTED) {
+            String where = section == 0 ? "Description" : "promise " + section;
+            String about = sentence.isEmpty() ? "" : where + ", \"" + sentence + "\": ";
+            System.out.println(about + call + " answered " + got + ", due is " + want);
         }
     }
 

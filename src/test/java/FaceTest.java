@@ -41,8 +41,13 @@ public final class FaceTest {
         check.due("public and final", PrintSpooler.class.getModifiers(), Modifier.PUBLIC | Modifier.FINAL);
         for (Class<?> inside : PrintSpooler.class.getDeclaredClasses()) {
             for (Method method : inside.getDeclaredMethods()) {
-                hidden.add(method.getName());
+                if (Modifier.isPrivate(method.getModifiers())) {
+                    hidden.add(method.getName());
+                }
             }
+            int modifiers = inside.getModifiers();
+            check.due(inside + " is static", Modifier.isStatic(modifiers) ? 1 : 0, 1);
+            check.due(inside + " is public", Modifier.isPublic(modifiers) || Modifier.isProtected(modifiers) ? 1 : 0, 0);
         }
         for (String name : METHODS.replaceAll("/\\d", "").split(" ")) {
             check.due("a hidden method with the name " + name, hidden.contains(name) ? 1 : 0, 0);

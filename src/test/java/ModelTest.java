@@ -90,7 +90,7 @@ public final class ModelTest {
     }
 
     private int job() {
-        return random(40) == 0 ? random(30) - 2 : random(Math.max(1, spooler.count(1)));
+        return random(40) == 0 ? random(30) - 2 : random(Math.max(1, model.count(1)));
     }
 
     private int near(int most) {
@@ -99,7 +99,7 @@ public final class ModelTest {
 
     private void step() throws ReflectiveOperationException {
         switch (random(style == 0 ? 14 : 24)) {
-            case 0: case 1: text(); call("submit", random(30) == 0 ? near(11) : random(spooler.count(0))); break;
+            case 0: case 1: text(); call("submit", random(30) == 0 ? near(11) : random(model.count(0))); break;
             case 2: text(); lookAtText(); break;
             case 3: setting(); break;
             case 4: case 5: lookAtSheets(); break;
@@ -129,14 +129,14 @@ public final class ModelTest {
 
     private void lookAtText() throws ReflectiveOperationException {
         call("fault");
-        int document = random(20) == 0 ? near(10) : random(spooler.count(0));
+        int document = random(20) == 0 ? near(10) : random(model.count(0));
         int size = call("listed", document, -1);
         call("listed", document, near(Math.max(3, size)));
     }
 
     private void lookAtSheets() throws ReflectiveOperationException {
         int job = job();
-        int sheet = near(Math.max(0, spooler.about(job, 8) - 1));
+        int sheet = near(Math.max(0, model.about(job, 8) - 1));
         int side = random(15) == 0 ? near(2) : random(2);
         switch (random(6)) {
             case 0:
@@ -146,7 +146,7 @@ public final class ModelTest {
                 break;
             case 1: call("turned", job, side); call("blanks", job); break;
             case 2:
-                int index = near(Math.max(0, spooler.about(job, 7) - 1));
+                int index = near(Math.max(0, model.about(job, 7) - 1));
                 for (int what = 0; what < 3; what++) {
                     call("where", job, index, what);
                 }
@@ -173,7 +173,7 @@ public final class ModelTest {
     private void lookAtAll() throws ReflectiveOperationException {
         switch (random(6)) {
             case 0:
-                int number = spooler.count(4) - 1 - random(random(3) == 0 ? 120 : 8);
+                int number = model.count(4) - 1 - random(random(3) == 0 ? 120 : 8);
                 for (int what = 0; what < 4; what++) {
                     call("log", number, what);
                 }
@@ -198,7 +198,7 @@ public final class ModelTest {
     private void supply() throws ReflectiveOperationException {
         if (random(3) == 0) {
             int user = near(5);
-            int quota = random(3) == 0 ? 10000 : Math.max(0, spooler.printed(Math.max(0, user % 6))) + random(9);
+            int quota = random(3) == 0 ? 10000 : Math.max(0, model.printed(Math.max(0, user % 6))) + random(9);
             call("setQuota", user, random(20) == 0 ? -1 + random(2) * 10002 : quota);
         } else if (random(4) == 0) {
             call("setRules", random(random(2) == 0 ? 5 : 1002), random(random(2) == 0 ? 20 : 1002));

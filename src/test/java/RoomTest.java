@@ -1,8 +1,8 @@
 import java.lang.management.ManagementFactory;
 
-/** What a run of 512 calls makes stays far below the room of 7.3 million fields and elements. */
+/** What a run of 512 calls makes stays below the room of 7.3 million fields and elements, of four bytes each. */
 public final class RoomTest {
-    private static final long MOST_BYTES = 4_000_000;
+    private static final long MOST_BYTES = 29_000_000;
 
     public static void main(String[] args) {
         Check check = new Check();
@@ -39,13 +39,13 @@ public final class RoomTest {
     }
 
     private static void forecasts() {
-        PrintSpooler x = TimeTest.printing("*");
+        PrintSpooler x = Make.printing("*");
         x.fill(0, 0, 400);
         x.set(PrintSpooler.COPIES, 10);
         for (int job = 1; job < 24; job++) {
             Check.submit(x, 0, "*");
         }
-        for (int i = 0; i < 440; i++) {
+        for (int i = 0; i < 130; i++) {
             x.urgency(23, 1000);
             x.save(i % 2);
             x.canonical(3, 0);
