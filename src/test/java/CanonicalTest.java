@@ -78,6 +78,11 @@ public final class CanonicalTest {
         known(check, "1-3,5,7,9", "1-3,5-9o", 2);
         known(check, "1,2,1", "1-2,1", 2);
         known(check, "2,1,2,3", "2,1-3", 2);
+        // as many signs and items either way, in parts where numbers have two digits or three
+        known(check, "94-99,101,103,104", "94-99,101,103-104", 3);
+        known(check, "102-104,103-102,100,98-96", "102-104,103-102,100,98-96", 4);
+        known(check, "105,104,102,100-97", "105-104,102,100-97", 3);
+        known(check, "4-9,11,13,14", "4-9,11,13-14", 3);
         // shorter all the same: the end of a run is left to the next item
         known(check, "1-10,12,14,16", "1-9,10-16e", 2);
         known(check, "1,3,5,4,3,2", "1,3,5-2", 3);

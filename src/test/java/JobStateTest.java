@@ -1,7 +1,7 @@
 /** Promises 24 to 28: hold, release, cancel, jam and clear; and which jobs are printable. */
 public final class JobStateTest {
     private static final int[] NO_JOBS = {-1, 1, 23, 24, Integer.MIN_VALUE, Integer.MAX_VALUE};
-    private static final int[] NO_PRINTERS = {-1, 1, 3, Integer.MIN_VALUE, Integer.MAX_VALUE};
+    private static final int[] NO_PRINTERS = {-1, 1, 2, 3, Integer.MIN_VALUE, Integer.MAX_VALUE};
     private static final String JAM = "A jam loses the sheet that is being printed: the job becomes WAITING, or HELD or "
         + "CANCELED if there is such a request (there is none any more then); its next sheet stays.";
 

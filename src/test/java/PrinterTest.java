@@ -150,7 +150,7 @@ public final class PrinterTest {
         check.due("no printer", x.fill(0, 0, 1), -1);
         check.due("no printer, no size, too many", x.fill(0, 9, 999), -1);
         x.addPrinter(1, 1, 0);
-        int[] noPrinters = {-1, 1, 3, LEAST, GREATEST};
+        int[] noPrinters = {-1, 1, 2, 3, LEAST, GREATEST};
         for (int printer : noPrinters) {
             check.due("fill(" + printer + ",0,1)", x.fill(printer, 0, 1), -1);
             check.due("fill(" + printer + ",3,501)", x.fill(printer, 3, 501), -1);
@@ -224,7 +224,7 @@ public final class PrinterTest {
         PrintSpooler x = new PrintSpooler();
         check.due("no printer", x.printer(0, 0), -1);
         x.addPrinter(5, 20, 1);
-        int[] noPrinters = {-1, 1, 3, LEAST, GREATEST};
+        int[] noPrinters = {-1, 1, 2, 3, LEAST, GREATEST};
         for (int printer : noPrinters) {
             check.due("printer(" + printer + ",0)", x.printer(printer, 0), -1);
             check.due("printer(" + printer + ",4)", x.printer(printer, 4), -1);
@@ -511,7 +511,7 @@ public final class PrinterTest {
         check.due("no job", x.duration(0, 0), -1);
         Check.submit(x, 0, "*");
         check.due("the sum", x.duration(0, 0), 35);
-        int[] none = {-1, 1, 3, 24, LEAST, GREATEST};
+        int[] none = {-1, 1, 2, 3, 24, LEAST, GREATEST};
         for (int one : none) {
             check.due("no job " + one, x.duration(one, 0), -1);
             check.due("no printer " + one, x.duration(0, one), -1);

@@ -382,6 +382,8 @@ public final class SavingTest {
         check.due("no request", x.release(0), -5);
         check.due("remaining", x.printer(0, 5), 10);
         check.due("restore(1)", x.restore(1), 11);
+        check.due("pages", x.about(0, 7), 4);
+        check.due("the last page", x.page(0, 3, 0, 0), 4);
         check.due("weight(0,2)", x.weight(0, 2), 13);
         check.due("the request", x.release(0), 1);
         check.due("lost sheets", x.printer(0, 6), 1);

@@ -339,6 +339,8 @@ public final class TextTest {
             check.due("listed(1," + index + ")", x.listed(1, index), -6);
         }
         check.due("listed(0,2)", x.listed(0, 2), -6);
+        check.due("listed(1,3)", x.listed(1, 3), 5);
+        check.due("listed(0,3), though a longer list had it", x.listed(0, 3), -6);
         Check.text(x, "!*");
         check.due("the empty list", x.listed(0, -1), 0);
         check.due("its first page", x.listed(0, 0), -6);
